@@ -4,7 +4,7 @@ import java.util.Arrays;
  * Group keys in a tree. Members sit at leaves and hold the keys of all nodes above them; comings and
  * leavings are gathered and changed in batches, by letters that tell each new key to those beneath.
  *
- * <p>No call throws: what is refused answers a number below 0. Nothing is made after the constructor.
+ * <p>What is refused answers a number below 0. No object is made but in the constructor.
  */
 public final class KeyTrees {
     public static final int BAD = -1, NOT = -2, FULL = -3, NONE = -4, NULL = -11, CAST = -12, INDEX = -13, SIZE = -14;
@@ -536,7 +536,7 @@ public final class KeyTrees {
         final int[] ofNode = new int[NODES];
 
         Keys() {
-            clear();
+            Arrays.fill(ofNode, NONE);
         }
 
         void take(Keys other) {

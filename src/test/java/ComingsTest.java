@@ -21,6 +21,7 @@ public final class ComingsTest {
         lose();
         lettersLostStayLost();
         mend();
+        mendOfOne();
         mendOfThree();
         mendedForSleepers();
         mendIsRefused();
@@ -166,7 +167,7 @@ public final class ComingsTest {
         DUE.is("keys", x.count(4), 155);
         DUE.is("letters", x.count(5), 150);
         x.leave(0);
-        DUE.is("158 letters", x.batch(), 7);
+        DUE.is("157 letters", x.batch(), 7);
         Trees.tell(x, "-1-2");
         int due = x.due(0);
         DUE.is("a batch goes over the limit", x.batch(), due);
@@ -179,6 +180,7 @@ public final class ComingsTest {
         DUE.is("full is no doing", x.count(8), doings);
         DUE.is("due all the same", x.due(0) > 0 ? 1 : 0, 1);
         fullOfKeys();
+        fullOfLetters();
     }
 
     /** One member that comes makes 5 keys and 4 letters each time, so both limits are met at once. */
@@ -202,6 +204,39 @@ public final class ComingsTest {
         DUE.is("begun anew", x.begin(), 200);
         x.come(0);
         DUE.is("full no more", x.batch(), 4);
+    }
+
+    /** 160 letters at 199 keys, as 8 letters come with 9 keys at first; and 159 letters, as 15 do. */
+    private static void fullOfLetters() {
+        KeyTrees x = Trees.after("+0+1!-0-1!");
+        comeAlone(x, 38);
+        DUE.is("199 keys", x.count(4), 199);
+        DUE.is("160 letters", x.count(5), 160);
+        x.come(5);
+        DUE.is("full by letters alone", x.batch(), KeyTrees.FULL);
+        DUE.is("it is coming yet", x.count(1), 32);
+        x = Trees.after("+0+1!-1!+1!-1!-0!");
+        comeAlone(x, 36);
+        DUE.is("159 letters", x.count(5), 159);
+        Trees.tell(x, "+0+1+2+3+4+5+6+7+8+9+a+b+c+d+e+f");
+        DUE.is("a whole tree is let in", x.batch(), 30);
+        DUE.is("189 letters", x.count(5), 189);
+        DUE.is("all read the last of them", x.node(1, 2), 0xffff);
+    }
+
+    /** 0 comes so often alone, leaving between: 5 keys and 4 letters each time. */
+    private static void comeAlone(KeyTrees x, int times) {
+        for (int round = 0; round < times; round++) {
+            if (x.member(0, 0) != KeyTrees.NONE) {
+                x.leave(0);
+                x.batch();
+            }
+            x.come(0);
+            x.batch();
+        }
+        // with 160 letters the leaving is refused already
+        x.leave(0);
+        x.batch();
     }
 
     private static void readingOfBatches() {
@@ -315,6 +350,20 @@ public final class ComingsTest {
         DUE.is("node 3's holders", x.node(3, 2), 8);
         DUE.is("mended all", x.mend(3), KeyTrees.NOT);
         DUE.is("no batch more", x.count(6), 2);
+    }
+
+    /** 2 sits at 20, and sleeps as 1 leaves 24: node 1's key alone goes by it. */
+    private static void mendOfOne() {
+        KeyTrees x = Trees.after("+0+1+2+3!");
+        x.late(2, 1);
+        Trees.tell(x, "-1!");
+        x.lose(2, 40);
+        x.late(2, 0);
+        DUE.is("one", x.mend(2), 1);
+        DUE.is("node 1's", x.letter(x.count(5) - 1, 0), x.node(1, 0));
+        DUE.is("under 20's", x.letter(x.count(5) - 1, 1), x.node(20, 0));
+        DUE.is("holds it", x.member(2, 2), 1);
+        DUE.is("mended all", x.mend(2), KeyTrees.NOT);
     }
 
     /** 4 sits at 18, and sleeps as 0 leaves 16: the keys of 4, 2 and 1 go by it, but not 9's. */

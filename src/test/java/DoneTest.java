@@ -19,6 +19,7 @@ public final class DoneTest {
         undoKeepsTheRest();
         seed();
         image();
+        imageOfWhatIsWrittenOver();
         imageKeepsWhatMayBeUndone();
         DUE.end();
     }
@@ -289,6 +290,35 @@ public final class DoneTest {
         y.come(4);
         y.restore();
         DUE.is("the latest image", y.count(4) + y.count(1), 0);
+    }
+
+    /** What is written over behind an image, or what is undone, is there again as it was. */
+    private static void imageOfWhatIsWrittenOver() {
+        KeyTrees x = Trees.sleeper();
+        x.image();
+        x.begin();
+        Trees.tell(x, "+d+e!-d+c!+1!");
+        Trees.tell(x, "-1!+d!-e!");
+        asWithASleeper(x, x.restore(), 1);
+        x.begin();
+        Trees.tell(x, "+d+e!-d+c!+1!-1!+d!-e!");
+        x.undo();
+        asWithASleeper(x, x.undo(), 4);
+    }
+
+    private static void asWithASleeper(KeyTrees x, int answer, int due) {
+        DUE.is("it is back", answer, due);
+        DUE.is("node of key 0", x.key(0, 0), 28);
+        DUE.is("batch of key 14", x.key(14, 1), 0);
+        DUE.is("batch of key 15", x.key(15, 1), 1);
+        DUE.is("key in letter 5", x.letter(5, 0), 9);
+        int[] over = {0, 1, 2, 3, 4, 5, 6, 7, 9, 8, 11, 10, 13, 12, 8, 13, 15};
+        for (int i = 0; i < 17; i++) DUE.is("key over letter " + i, x.letter(i, 1), over[i]);
+        DUE.is("batch of letter 13", x.letter(13, 2), 0);
+        DUE.is("3 came in batch 0", x.why(3, 2), 4);
+        DUE.is("1 left in batch 1", x.why(1, 16), 3);
+        DUE.is("1 came in batch 0", x.why(1, 15), 4);
+        DUE.is("e never came", x.why(14, 0), 1);
     }
 
     private static void imageKeepsWhatMayBeUndone() {

@@ -57,6 +57,8 @@ public final class OpenedTest {
         KeyTrees x = Trees.sleeper();
         DUE.is("held", x.opens(1, 14), 1);
         DUE.is("not ever", x.opens(1, 15), 0);
+        DUE.is("key 0, held", x.opens(8, 0), 1);
+        DUE.is("key 0, another's", x.opens(7, 0), 0);
         DUE.is("by letters unread", x.opens(8, 15), 1);
         DUE.is("by letters behind letters", x.opens(8, 16), 1);
         DUE.is("by one that left", x.opens(2, 16), 0);

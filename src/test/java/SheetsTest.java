@@ -101,11 +101,14 @@ public final class SheetsTest {
             DUE.isTrue("its item " + n, isItem(x, 0, 2, 1 + n, due[n]));
         }
         KeyTrees x = Trees.whole();
-        letters(x, 0, 2, 99, 99, 99, 99, 99, 99, 99);
+        letters(x, 0, 2, 0, 99, 99, 99, 99, 99, 0);
         x.film(23, 0, 2, 1);
-        DUE.is("ahead of it", x.got(0, 0, 2, 0, 1), KeyTrees.NOT);
-        DUE.is("behind it", x.got(0, 0, 2, 6, 1), KeyTrees.NOT);
+        DUE.is("ahead of it", x.got(0, 0, 2, 0, 1), 1);
+        DUE.is("behind it", x.got(0, 0, 2, 6, 1), 1);
         DUE.is("the last five", x.film(16, 0, 2, 2), 5);
+        x.sheet(1, 3, 24);
+        DUE.is("the last five of 24", x.film(16, 1, 3, 19), 5);
+        DUE.is("over 24", x.film(16, 1, 3, 20), KeyTrees.INDEX);
         filmIsRefused();
         filmOfNoKeys();
         filmIsCut();
