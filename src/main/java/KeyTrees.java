@@ -30,6 +30,7 @@ public final class KeyTrees {
     private static final int TAPE_ROOM = 90;
     private static final int FIRST_FAULT = -20;
     private static final int NO_FAULT = -1;
+    private static final int DRAW_BITS = 0x7fffffff;
 
     private static final int SHEETS = 4;
     private static final int SHEET_ROOM = 24;
@@ -399,7 +400,7 @@ public final class KeyTrees {
     }
 
     private void driftOnce() {
-        now.draw = now.draw * 1103515245 + 12345 & Integer.MAX_VALUE;
+        now.draw = now.draw * 1103515245 + 12345 & DRAW_BITS;
         int x = now.draw >>> 16;
         int m = x / 16 % MEMBERS;
         switch (x % 8) {

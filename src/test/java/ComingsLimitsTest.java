@@ -221,11 +221,7 @@ public final class ComingsLimitsTest {
     /** One alone comes with 5 keys and 4 letters, the most keys by the fewest letters. */
     private static void fullByBoth() {
         KeyTrees x = new KeyTrees();
-        for (int round = 0; round < 39; round++) {
-            sitting(x, 0);
-            x.leave(0);
-            x.batch();
-        }
+        alone(x, 39);
         L.is("195 keys", x.count(4), 195);
         x.come(0);
         L.is("are not full", x.batch(), 4);
@@ -236,6 +232,30 @@ public final class ComingsLimitsTest {
         x.undo();
         L.is("195 again", x.count(4), 195);
         L.is("not full again", x.batch(), 4);
+        mostKeys();
+    }
+
+    /** More keys than these can't be made by fewer than 160 letters. */
+    private static void mostKeys() {
+        KeyTrees x = new KeyTrees();
+        alone(x, 37);
+        Trees.tell(x, "+0+1+2!");
+        L.is("197 keys", x.count(4), 197);
+        L.is("159 letters", x.count(5), 159);
+        x.come(3);
+        L.is("are not full", x.batch(), 6);
+        L.is("202 keys", x.count(4), 202);
+        x.come(4);
+        L.is("are full", x.batch(), FULL);
+    }
+
+    /** So often one comes alone, and leaves. */
+    private static void alone(KeyTrees x, int times) {
+        for (int round = 0; round < times; round++) {
+            sitting(x, 0);
+            x.leave(0);
+            x.batch();
+        }
     }
 
     // ---- promise 5
@@ -484,6 +504,26 @@ public final class ComingsLimitsTest {
             y.begin();
             y.undo();
         }, y -> Trees.tell(y, "+1!"));
+        beginForgetsLetters();
+    }
+
+    /** A letter of ahead would tell the group key of now under the leaf's key of one that has left. */
+    private static void beginForgetsLetters() {
+        KeyTrees x = Trees.after("+0!");
+        x.late(0, 1);
+        Trees.tell(x, "+1!");
+        x.lose(0, 40);
+        x.late(0, 0);
+        L.is("mended", x.mend(0), 1);
+        L.is("the letter 9 has key 9 in it", x.letter(9, 0), 9);
+        L.is("under key 0", x.letter(9, 1), 0);
+        x.begin();
+        Trees.tell(x, "+0+1!-1!");
+        L.is("9 letters", x.count(5), 9);
+        L.is("key 9 is the group key", x.node(1, 0), 9);
+        L.is("1 holds key 0", x.key(0, 3), 2);
+        L.is("and doesn't open key 9", x.opens(2, 9), 0);
+        L.is("nor reads it as it comes", x.come(1) + x.batch() + (x.key(9, 3) & 2), 1 + 5);
     }
 
     private static void beginNot() {

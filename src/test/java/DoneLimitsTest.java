@@ -30,11 +30,14 @@ public final class DoneLimitsTest {
         driftTurnsUndone();
         undoCounts();
         undoOfEachDoing();
+        undoOfWhatIsWrittenOver();
+        undoneLettersAreRead();
         undoKeeps();
         undoNone();
         whatIsNoDoing();
         seedLimits();
         imageKeeps();
+        imageOfEachPast();
         imageLeaves();
         restoreNone();
         L.end();
@@ -305,6 +308,11 @@ public final class DoneLimitsTest {
         L.is("lacks it " + m, x.count(7), 1 << m);
         turn(x, high | m << 4 | 7);
         L.is("mended " + m, x.count(7), 0);
+        x.leave(m);
+        turn(x, asleep);
+        L.is("leaving, asleep " + m, x.count(3), 1 << m);
+        turn(x, asleep);
+        L.is("leaving, awake " + m, x.count(3), 0);
     }
 
     /** One turn whose x is as told. */
@@ -482,6 +490,55 @@ public final class DoneLimitsTest {
         x.leave(2);
     }
 
+    /** A book that is begun anew and written over, its members having come and left, is back with all it had. */
+    private static void undoOfWhatIsWrittenOver() {
+        L.sentence("Terms", "is as it had not been");
+        String over = "+1+3+d+e!-d+c!+0+2!-1!-0-2-3-e!+1+f!-1!";
+        L.alike("written over, undone", x -> {
+            fourDone(x);
+            x.begin();
+            Trees.tell(x, over);
+            x.undo();
+            x.undo();
+        }, DoneLimitsTest::fourDone);
+        L.alike("written over, restored", x -> {
+            fourDone(x);
+            x.image();
+            x.begin();
+            Trees.tell(x, over);
+            x.restore();
+        }, x -> {
+            fourDone(x);
+            x.image();
+        });
+    }
+
+    /** What an undone batch wrote is no letter any more, neither to those who wake nor to those who come. */
+    private static void undoneLettersAreRead() {
+        L.sentence("Terms", "is as it had not been");
+        KeyTrees x = Trees.after("+0+1+2+3!");
+        x.late(3, 1);
+        Trees.tell(x, "-1!");
+        x.undo();
+        L.is("none unread", x.member(3, 4), 0);
+        L.is("none to lose", x.lose(3, 40), 0);
+        L.is("none opened", x.late(3, 0), 0);
+        x.begin();
+        x.come(3);
+        x.batch();
+        L.is("none opened of a book begun anew", x.late(3, 1) + x.late(3, 0), 0);
+        // the undone one's last letter would tell a key of this number under node 3's old one, which 1 holds
+        KeyTrees y = Trees.after("+0+1!");
+        Trees.tell(y, "+3!");
+        L.is("letters", y.count(5), 14);
+        y.undo();
+        Trees.tell(y, "-1+3!");
+        L.is("one letter fewer", y.count(5), 13);
+        L.is("the group key", y.node(1, 0), 13);
+        L.is("1 holds node 3's old key", y.key(6, 3), 2);
+        L.is("and opens nothing of now", y.opens(2, 13), 0);
+    }
+
     private static void undoKeeps() {
         L.sentence("Terms", "all but SHEETS, THE TAPE, IMAGES is as ahead of it, whatever was told since.");
         KeyTrees x = new KeyTrees();
@@ -593,6 +650,26 @@ public final class DoneLimitsTest {
         y.come(8);
         y.restore();
         L.is("the latest image", y.count(1), 1 << 7);
+    }
+
+    /** So many come ahead of the image: what may be undone then is so, whatever has been written over it since. */
+    private static void imageOfEachPast() {
+        L.sentence("Promise 23", "(what may be UNDONE, too)");
+        for (int n = 0; n <= 14; n++) {
+            KeyTrees x = new KeyTrees();
+            for (int m = 0; m < n; m++) x.come(m);
+            x.image();
+            x.drift(40);
+            x.restore();
+            int known = Math.min(n, 6);
+            L.is("known of " + n, x.count(8), known);
+            for (int left = known - 1; left >= 0; left--) {
+                L.is("undo of " + n, x.undo(), left);
+                L.is("coming then", x.count(1), (1 << n - known + left) - 1);
+                L.is("sitting then", x.count(0), 0);
+            }
+            L.is("no more of " + n, x.undo(), NONE);
+        }
     }
 
     private static void undoSix(KeyTrees x) {

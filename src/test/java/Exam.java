@@ -55,7 +55,9 @@ final class Exam {
     private void book() {
         for (int v = 1; v < 32; v++) row("node(" + v + ", 0)", x.node(v, 0));
         int keys = x.count(4);
-        for (int k = Math.max(0, keys - LAST_KEYS); k < keys; k++) row("key(" + k + ", 3)", x.key(k, 3));
+        for (int k = Math.max(0, keys - LAST_KEYS); k < keys; k++) {
+            for (int what : new int[] {0, 1, 3}) row("key(" + k + ", " + what + ")", x.key(k, what));
+        }
         int letters = x.count(5);
         for (int i = Math.max(0, letters - LAST_LETTERS); i < letters; i++) {
             for (int what = 0; what < 3; what++) row("letter(" + i + ", " + what + ")", x.letter(i, what));

@@ -1,4 +1,6 @@
 import java.io.IOException;
+import java.lang.reflect.Field;
+import java.lang.reflect.Modifier;
 import java.nio.file.Files;
 import java.nio.file.Path;
 import java.util.regex.Matcher;
@@ -26,7 +28,36 @@ public final class LanguageTest {
             DUE.isTrue("at most seven parameters: " + m.group(), m.group(1).split(",").length <= 7);
         }
         methodsAreShort(text);
+        library(code);
+        fields(KeyTrees.class);
+        for (Class<?> inner : KeyTrees.class.getDeclaredClasses()) fields(inner);
         DUE.end();
+    }
+
+    /** Of the library rule 4 lets in these functions, and no constants. */
+    private static void library(String code) {
+        String classes = "Arrays|System|Integer|Long|Math|List|Character|Boolean|Objects";
+        Pattern use = Pattern.compile("\\b(" + classes + ")\\.(\\w+\\(?)");
+        for (Matcher m = use.matcher(code); m.find();) {
+            String name = m.group(1) + "." + m.group(2);
+            boolean numbers = m.group(1).matches("Integer|Long|Math") && name.endsWith("(");
+            boolean let = name.matches("Arrays\\.(fill|copyOf|copyOfRange)\\(|System\\.arraycopy\\(|List\\.of\\(");
+            DUE.isTrue("let in: " + name, numbers || let || name.equals("Arrays;"));
+        }
+    }
+
+    /** Rules 3, 5 and 11: some twenty fields a class, of the types that are let in, static ones final. */
+    private static void fields(Class<?> type) {
+        int own = 0;
+        for (Field field : type.getDeclaredFields()) {
+            boolean constant = Modifier.isStatic(field.getModifiers());
+            if (constant) DUE.isTrue(field + " is final", Modifier.isFinal(field.getModifiers()));
+            else own++;
+            Class<?> part = field.getType().isArray() ? field.getType().getComponentType() : field.getType();
+            boolean ofOwn = part.getDeclaringClass() == KeyTrees.class;
+            DUE.isTrue(field + " is of a type let in", part.isPrimitive() || ofOwn || part == String.class);
+        }
+        DUE.isTrue(type + " has some twenty fields", own <= 20);
     }
 
     private static int places(String code, String rule) {

@@ -26,6 +26,7 @@ public final class OpenedLimitsTest {
         dueBad();
         luckOfEachC();
         luckOfEachNeed();
+        luckOfTheFirstBatch();
         luckOfTheLastBatch();
         luckBad();
         luckNot();
@@ -225,6 +226,10 @@ public final class OpenedLimitsTest {
         KeyTrees y = Trees.after("+0+2!+1!-1-2");
         // here 1 sits at 20, 2 at 24: 1's three letters, then 2's one
         L.is("1 ahead of 2, the other way", y.due(1), 3 + 1);
+        // 6 leaves 24 ahead of 0, whose number is less: 0 comes to 24 then
+        KeyTrees u = Trees.after("+5+6!-6+0");
+        L.is("who leaves ahead of who comes", u.due(1), 1 + 5);
+        L.is("at once 0 takes 24", u.due(0), 5);
         // a leaf that was left is not taken again, as each comes by a batch of its own
         KeyTrees z = Trees.after("+0+1+2+3!-2+9");
         L.is("at once 9 takes 20", z.due(0), 1 + 1 + 2 + 2);
@@ -236,7 +241,7 @@ public final class OpenedLimitsTest {
         L.is("at once 9 takes 16", v.due(0), 1 + 2 + 2 + 2);
         // 0 leaves 16: 4, 2, 1; then 9 goes beneath 5 or 4, of like ones the lesser: to 16
         L.is("single", v.due(1), 1 + 2 + 2 + 1 + 2 + 2 + 2);
-        L.keeps("asking changes nothing", Trees::rich, u -> u.due(1), 3 + 6);
+        L.keeps("asking changes nothing", Trees::rich, t -> t.due(1), 3 + 6);
     }
 
     private static void dueOfAFullBook() {
@@ -319,6 +324,19 @@ public final class OpenedLimitsTest {
             L.is("all are lost, needing " + n, x.luck(15, 10, 0), 0);
             L.is("of one again, needing " + n, x.luck(15, 10, 1), 1);
         }
+    }
+
+    /** All come at once: each needs four, the first letter and the last among them. */
+    private static void luckOfTheFirstBatch() {
+        L.sentence("Promise 17", "LUCK: above (what 0), below (1).");
+        KeyTrees x = Trees.whole();
+        for (int m = 0; m < 16; m++) {
+            L.is("above of " + m, x.luck(m, 3, 0), 2401);
+            L.is("below of " + m, x.luck(m, 3, 1), 10000);
+        }
+        KeyTrees y = Trees.after("+f!");
+        L.is("above of one alone", y.luck(15, 1, 0), 6561);
+        L.is("below of one alone", y.luck(15, 1, 1), 10000);
     }
 
     private static void luckOfTheLastBatch() {
