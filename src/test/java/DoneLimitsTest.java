@@ -317,7 +317,7 @@ public final class DoneLimitsTest {
 
     /** One turn whose x is as told. */
     private static void turn(KeyTrees x, int wanted) {
-        x.seed(seedOf(wanted));
+        x.seed(Trees.seedAheadOf(drawOf(wanted)));
         x.drift(1);
         L.is("the draw of x " + wanted, x.seed(1), drawOf(wanted));
     }
@@ -325,14 +325,6 @@ public final class DoneLimitsTest {
     /** The least 16 bits are all ones, so that it counts that x is cut. */
     private static long drawOf(int wanted) {
         return (long) wanted << 16 | 0xffff;
-    }
-
-    /** The draw that becomes the one that is wanted. */
-    private static int seedOf(int wanted) {
-        long inverse = 1;
-        // Newton's steps, each of which doubles the bits that are right
-        for (int step = 0; step < 6; step++) inverse = inverse * (2 - 1103515245L * inverse);
-        return (int) ((drawOf(wanted) - 12345) * inverse & DRAW_BITS);
     }
 
     private static void driftRefused() {
@@ -356,7 +348,7 @@ public final class DoneLimitsTest {
             turn(x, wanted);
         }, x -> {
             state.tell(x);
-            x.seed(seedOf(wanted));
+            x.seed(Trees.seedAheadOf(drawOf(wanted)));
             Trees.tell(x, "-f");
             x.seed(1);
         });

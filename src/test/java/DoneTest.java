@@ -145,11 +145,7 @@ public final class DoneTest {
 
     /** One turn whose x is as told. */
     private static void turn(KeyTrees x, int wanted) {
-        long inverse = 1;
-        // Newton's steps, each of which doubles the bits that are right
-        for (int step = 0; step < 6; step++) inverse = inverse * (2 - 1103515245L * inverse);
-        long ahead = (((long) wanted << 16 | 4711) - 12345) * inverse & 0x7fffffffL;
-        x.seed((int) ahead);
+        x.seed(Trees.seedAheadOf((long) wanted << 16 | 4711));
         x.drift(1);
         DUE.is("the draw of x " + wanted, x.seed(1), (long) wanted << 16 | 4711);
     }

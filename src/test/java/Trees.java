@@ -100,6 +100,14 @@ final class Trees {
         }
     }
 
+    /** The draw that becomes this one by a turn of a drift. */
+    static int seedAheadOf(long draw) {
+        long inverse = 1;
+        // Newton's steps, each of which doubles the bits that are right
+        for (int step = 0; step < 6; step++) inverse = inverse * (2 - 1103515245L * inverse);
+        return (int) ((draw - 12345) * inverse & 0x7fffffffL);
+    }
+
     /** A number that stands for what can be asked of a small object, in some 130 calls. */
     static long look(KeyTrees x) {
         long sum = 17;
