@@ -1,7 +1,10 @@
+import java.io.IOException;
 import java.lang.reflect.Constructor;
 import java.lang.reflect.Field;
 import java.lang.reflect.Method;
 import java.lang.reflect.Modifier;
+import java.nio.file.Files;
+import java.nio.file.Path;
 import java.util.TreeSet;
 
 /** The face: the document's constants, constructor and methods, and no other member that isn't private. */
@@ -11,10 +14,11 @@ public final class FaceTest {
     private FaceTest() {
     }
 
-    public static void main(String[] args) {
+    public static void main(String[] args) throws IOException {
         constants();
         constructors();
         methods();
+        headings(Files.readString(Path.of("src/main/java/KeyTrees.java")).replaceAll("\\s+(// (?!----))?", " "));
         DUE.isTrue("public and final", KeyTrees.class.getModifiers() == (Modifier.PUBLIC | Modifier.FINAL));
         for (Class<?> inner : KeyTrees.class.getDeclaredClasses()) {
             int modifiers = inner.getModifiers();
@@ -67,5 +71,23 @@ public final class FaceTest {
             DUE.isTrue(method + " is told", due.remove(method.getName() + "/" + method.getParameterCount()));
         }
         DUE.isTrue("all are there but " + due, due.isEmpty());
+    }
+
+    /** What stands ahead of the calls, and the calls behind it, in the document's order. */
+    private static void headings(String text) {
+        String[] parts = {
+            "// ---- 1 comings and leavings ", "come", "leave", "batch", "late", "lose", "mend", "begin", "member",
+            "node", "key", "letter", "count",
+            "// ---- 2 what is opened ", "why", "opens", "due", "luck",
+            "// ---- 3 what is done ", "type", "read", "drift", "undo", "seed", "image", "restore",
+            "// ---- sheets 0 .. 3: nothing (at first), or a row of a LANE: 0 bytes, 1 shorts, 2 ints, 3 longs "
+                + "(all with a sign), of 0 to 24 items.", "got", "film", "sheet", "drop", "item", "copy"};
+        int behind = 0;
+        for (String part : parts) {
+            String words = part.startsWith("//") ? part : "public int " + part + "(";
+            int place = text.indexOf(words, behind);
+            DUE.isTrue("in its place: " + words, place >= 0);
+            behind = Math.max(behind, place);
+        }
     }
 }

@@ -58,8 +58,8 @@ public final class ModelTest {
     private void is(int call, String name, long got, long want, int... arguments) {
         told++;
         if (want >= -14 && want <= 4) SEEN.merge(name + " " + want, 1, Integer::sum);
-        DUE.is(got == want ? name : "run " + run + ", call " + call + ": " + name + java.util.Arrays.toString(arguments),
-            got, want);
+        String where = "run " + run + ", call " + call + ": " + name;
+        DUE.is(got == want ? name : where + java.util.Arrays.toString(arguments), got, want);
     }
 
     private void oneCall(int call) {
@@ -192,13 +192,22 @@ public final class ModelTest {
         int letters = letters();
         int v = draw(12) == 0 ? about(-400, 70000) : Math.max(0, letters - 1 - draw(12));
         switch (draw(8)) {
-            case 0: is(call, "film", x.film(leaf, sheet, lane, i), model.film(leaf, sheet, lane, i), leaf, sheet, lane, i); break;
+            case 0:
+                is(call, "film", x.film(leaf, sheet, lane, i), model.film(leaf, sheet, lane, i), leaf, sheet, lane, i);
+                break;
             case 1: n = about(draw(3) == 0 ? 0 : 12, 24);
                 is(call, "sheet", x.sheet(sheet, lane, n), model.sheet(sheet, lane, n), sheet, lane, n); break;
             case 2: if (draw(4) == 0) is(call, "drop", x.drop(sheet), model.drop(sheet), sheet); break;
-            case 3: is(call, "copy", x.copy(sheet, i, other, j, n), model.copy(sheet, i, other, j, n), sheet, i, other, j, n); break;
-            case 4: case 5: is(call, "item", x.item(sheet, lane, i, v), model.item(sheet, lane, i, v), sheet, lane, i, v); break;
-            default: is(call, "got", x.got(m, sheet, lane, i, n), model.got(m, sheet, lane, i, n), m, sheet, lane, i, n); break;
+            case 3:
+                is(call, "copy", x.copy(sheet, i, other, j, n), model.copy(sheet, i, other, j, n), sheet, i, other,
+                    j, n);
+                break;
+            case 4: case 5:
+                is(call, "item", x.item(sheet, lane, i, v), model.item(sheet, lane, i, v), sheet, lane, i, v);
+                break;
+            default:
+                is(call, "got", x.got(m, sheet, lane, i, n), model.got(m, sheet, lane, i, n), m, sheet, lane, i, n);
+                break;
         }
     }
 
